@@ -1,4 +1,5 @@
 import java.util.ArrayList;
+import java.util.Collections;
 import java.util.List;
 import java.util.Random;
 
@@ -18,6 +19,7 @@ final class Nets {
         for (int tries = 0; ; tries++) {
             Nets nets = new Nets(seed * 1000 + tries);
             String text = nets.one(seed);
+            text = seed / 8 % 3 == 0 ? nets.shuffled(text) : text;
             if (text.length() <= 240) {
                 return text;
             }
@@ -33,6 +35,21 @@ final class Nets {
             case 4: return choices();
             default: return segments();
         }
+    }
+
+    /** The same places in another order: events and places have other numbers then. */
+    private String shuffled(String text) {
+        StringBuilder wires = new StringBuilder();
+        List<String> places = new ArrayList<>();
+        for (String line : text.split(";")) {
+            if (line.startsWith("place")) {
+                places.add(line + ";");
+            } else if (!line.isEmpty()) {
+                wires.append(line).append(';');
+            }
+        }
+        Collections.shuffle(places, random);
+        return wires + String.join("", places);
     }
 
     private String heads() {
