@@ -981,7 +981,8 @@ public final class WaitingWires {
         private final int[] next = new int[STATES * EVENTS];
         /** Where a marking is found: its state and 1; 0 where nothing is. */
         private final int[] slots = new int[SLOTS];
-        private final boolean[] home = new boolean[STATES];
+        /** 1 for a state from which the first one can come again. */
+        private final int[] home = new int[STATES];
         private int strays;
 
         void explore(Net net) {
@@ -1027,16 +1028,16 @@ public final class WaitingWires {
         }
 
         private int findHome() {
-            Arrays.fill(home, false);
-            home[0] = true;
+            Arrays.fill(home, 0);
+            home[0] = 1;
             int found = 1;
             int before = 0;
             for (int rounds = 0; rounds < STATES && found > before; rounds++) {
                 before = found;
                 // from the last on: most ways lead to states with greater numbers and then home
                 for (int s = size - 1; s > 0; s--) {
-                    if (!home[s] && leadsHome(s)) {
-                        home[s] = true;
+                    if (home[s] == 0 && leadsHome(s)) {
+                        home[s] = 1;
                         found++;
                     }
                 }
@@ -1046,7 +1047,7 @@ public final class WaitingWires {
 
         private boolean leadsHome(int s) {
             for (int e = 0; e < EVENTS; e++) {
-                if ((ready[s] >> e & 1) != 0 && home[next[s * EVENTS + e]]) {
+                if ((ready[s] >> e & 1) != 0 && home[next[s * EVENTS + e]] == 1) {
                     return true;
                 }
             }
