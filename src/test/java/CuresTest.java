@@ -2,10 +2,9 @@
 public final class CuresTest {
     private static final int BAD = WaitingWires.BAD, STATE = WaitingWires.STATE, FULL = WaitingWires.FULL,
         NONE = WaitingWires.NONE;
-    private static final String QUARREL = "in a;out b;out c;place a+>b+ 0;place b+>a- 0;place a->b- 0;place b->c+ 0;"
-        + "place c+>c- 0;place c->a+ 1;";
-    private static final String FORK = "in a;out b;out c;place c->a+ b+ 1;place a+>a- 0;place b+>b- 0;place a- b->c+ 0;place c+>c- 0;";
-    private static final String LATCH = "in a;out b;place a+>b+ 0;place b+>a- 0;place a->b- 0;place b->a+ 1;";
+    private static final String QUARREL = Texts.QUARREL;
+    private static final String FORK = Texts.FORK;
+    private static final String LATCH = Texts.LATCH;
 
     public static void main(String[] args) {
         would();

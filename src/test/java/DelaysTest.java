@@ -1,7 +1,7 @@
 /** Promises 22 to 24: delays, the beat, when each comes. */
 public final class DelaysTest {
     private static final int BAD = WaitingWires.BAD, STATE = WaitingWires.STATE, NONE = WaitingWires.NONE;
-    private static final String LATCH = "in a;out b;place a+>b+ 0;place b+>a- 0;place a->b- 0;place b->a+ 1;";
+    private static final String LATCH = Texts.LATCH;
 
     public static void main(String[] args) {
         delay();

@@ -1,10 +1,8 @@
 /** Promises 15 to 18: aims, the least sum of cubes, cubes that are judged, the cost. */
 public final class MakesTest {
     private static final int BAD = WaitingWires.BAD, STATE = WaitingWires.STATE, NONE = WaitingWires.NONE;
-    private static final String MEET = "in a;in b;out c;place c->a+ 1;place c->b+ 1;place a+>c+ 0;place b+>c+ 0;"
-        + "place c+>a- 0;place c+>b- 0;place a->c- 0;place b->c- 0;";
-    private static final String QUARREL = "in a;out b;out c;place a+>b+ 0;place b+>a- 0;place a->b- 0;place b->c+ 0;"
-        + "place c+>c- 0;place c->a+ 1;";
+    private static final String MEET = Texts.MEET;
+    private static final String QUARREL = Texts.QUARREL;
     private static final String NOT_RIGHT = "out a;place a+>a+ 1;";
 
     public static void main(String[] args) {

@@ -1,7 +1,7 @@
 /** Promises 1 to 8: a new object, the tape, texts and their faults, what was told. */
 public final class NetTest {
     private static final int BAD = WaitingWires.BAD, FULL = WaitingWires.FULL, NONE = WaitingWires.NONE;
-    private static final String LATCH = "in a;out b;place a+>b+ 0;place b+>a- 0;place a->b- 0;place b->a+ 1;";
+    private static final String LATCH = Texts.LATCH;
 
     public static void main(String[] args) {
         newObject();

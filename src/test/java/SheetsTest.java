@@ -1,7 +1,7 @@
 /** Promises 28 to 31: sheets, cells, rows of events that are judged, counts. */
 public final class SheetsTest {
     private static final int BAD = WaitingWires.BAD, STATE = WaitingWires.STATE, NONE = WaitingWires.NONE;
-    private static final String LATCH = "in a;out b;place a+>b+ 0;place b+>a- 0;place a->b- 0;place b->a+ 1;";
+    private static final String LATCH = Texts.LATCH;
 
     public static void main(String[] args) {
         sheet();

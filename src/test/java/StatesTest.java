@@ -2,11 +2,10 @@
 public final class StatesTest {
     private static final int BAD = WaitingWires.BAD, STATE = WaitingWires.STATE, NONE = WaitingWires.NONE,
         SPENT = WaitingWires.SPENT;
-    private static final String LATCH = "in a;out b;place a+>b+ 0;place b+>a- 0;place a->b- 0;place b->a+ 1;";
+    private static final String LATCH = Texts.LATCH;
     /** Two chains of four events, three events by themselves: 5 * 5 * 2 * 2 * 2 states. */
-    private static final String TWO_HUNDRED = "in a;in b;in c;in d;in e;in f;place>a+1;place a+>b+0;place b+>a-0;place a->b-0;"
-        + "place>c+1;place c+>d+0;place d+>c-0;place c->d-0;place>e+1;place>e-1;place>f+1;";
-    private static final String FORK = "in a;out b;out c;place c->a+ b+ 1;place a+>a- 0;place b+>b- 0;place a- b->c+ 0;place c+>c- 0;";
+    private static final String TWO_HUNDRED = Texts.TWO_HUNDRED;
+    private static final String FORK = Texts.FORK;
 
     public static void main(String[] args) {
         numbers();
