@@ -3,6 +3,7 @@ import java.nio.file.Files;
 import java.nio.file.Path;
 import java.util.BitSet;
 import java.util.List;
+import java.util.function.IntUnaryOperator;
 import java.util.function.Supplier;
 import java.util.function.ToIntFunction;
 
@@ -78,7 +79,7 @@ final class Bounds {
     }
 
     /** A call for each of some numbers, all with one answer. */
-    static void dueForAll(String call, int[] numbers, java.util.function.IntUnaryOperator ask, int want) {
+    static void dueForAll(String call, int[] numbers, IntUnaryOperator ask, int want) {
         for (int i : numbers) {
             due(call + " of " + i, ask.applyAsInt(i), want);
         }

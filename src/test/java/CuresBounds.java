@@ -196,7 +196,8 @@ final class CuresBounds {
 
     private static void cures() {
         Bounds.of(21, "The first e, f (by e, then f) that CURE: 100 e and f (what 0), how many such pairs (1).");
-        String[] texts = {Texts.QUARREL, Texts.LATCH, Texts.MEET, Texts.FORK, CHOICE, MANY, NARROW, "out a;", "out a;place>a+ 1;"};
+        String[] texts = {Texts.QUARREL, Texts.LATCH, Texts.MEET, Texts.FORK, CHOICE, MANY, NARROW, "out a;", "out a;place>a+ 1;",
+            "in a;place>a+ 1;place>a- 0;"};
         for (String text : texts) {
             WaitingWires x = Checks.told(text);
             int first = NONE;
@@ -217,6 +218,7 @@ final class CuresBounds {
         Bounds.due("six pairs", Checks.told(Texts.QUARREL).cures(1), 6);
         Bounds.due("2 and 3", Checks.told(NARROW).cures(0), 203);
         Bounds.due("two pairs", Checks.told(NARROW).cures(1), 2);
+        Bounds.due("two pairs, of which one EVENT never comes", Checks.told("in a;place>a+ 1;place>a- 0;").cures(1), 2);
         Bounds.terms(21, "It CURES, if the net is RIGHT then, has no QUARREL and none TAKEN BACK.");
         Bounds.due("none is RIGHT", Checks.told(MANY).cures(1), 0);
         Bounds.due("each has one TAKEN BACK", Checks.told(Texts.FORK).cures(1), 0);

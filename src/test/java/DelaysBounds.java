@@ -78,6 +78,14 @@ final class DelaysBounds {
             + "place a+/1>a-/1 1;place b+/1>b-/1 1;place b-/1>b+/1 0;");
         Bounds.due("sixteen EVENTS", x.count(1), 16);
         beats("the last two of sixteen", x, 2, 1, 3 << 14);
+        // it begins at once, then behind the other one
+        Bounds.due("time of the last of sixteen", x.time(15, 50), 99);
+        StringBuilder many = new StringBuilder("in a;in b;");
+        for (int p = 0; p < 15; p++) {
+            many.append("place a+>b+1;");
+        }
+        Bounds.tell(x, many + "place b+>a+1;place a+>b+0;");
+        beats("the last of seventeen PLACES", x, 2, 1, 3);
         // two rings of one beat, that share a+
         Bounds.tell(x, "in a;in b;in c;place a+>b+ 0;place b+>a+ 1;place a+>c+ 0;place c+>a+ 1;");
         beats("both", x, 2, 1, 7);

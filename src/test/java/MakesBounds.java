@@ -1,3 +1,5 @@
+import java.util.Arrays;
+
 /** Promises 15 to 18, sentence by sentence: aims, the least sum of cubes, cubes that are judged, the cost. */
 final class MakesBounds {
     private static final int BAD = Bounds.BAD, STATE = Bounds.STATE, NONE = Bounds.NONE;
@@ -186,7 +188,7 @@ final class MakesBounds {
             Bounds.due("some with AIM 0, all else missing", x.judge(2, lane, lane, 6, 1), 2);
         }
         int[] thirty = new int[30];
-        java.util.Arrays.fill(thirty, 22);
+        Arrays.fill(thirty, 22);
         thirty[28] = 16;
         thirty[29] = 14;
         lay(x, 3, 1, thirty);

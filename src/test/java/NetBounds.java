@@ -219,11 +219,7 @@ final class NetBounds {
         }
         x.delay(0, 20);
         Bounds.due("the greatest DELAY", x.event(0, 5), 20);
-        StringBuilder twenty = new StringBuilder("in a;");
-        for (int p = 0; p < 20; p++) {
-            twenty.append("place>a+0;");
-        }
-        Bounds.tell(x, twenty.toString());
+        Bounds.tell(x, Texts.twentyPlaces(0));
         Bounds.due("takes from all 20", x.event(0, 3), (1 << 20) - 1);
         Bounds.due("feeds none", x.event(0, 4), 0);
         StringBuilder fed = new StringBuilder("in a;place a+>a+0;");

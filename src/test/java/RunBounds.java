@@ -130,11 +130,7 @@ final class RunBounds {
         is("one is READY", x, 1, 1, 1, 15);
         Bounds.due("the first one", x.come(0), 2);
         is("none is READY", x, 0, 0, 2, 0);
-        StringBuilder twenty = new StringBuilder("in a;");
-        for (int p = 0; p < 20; p++) {
-            twenty.append("place>a+1;");
-        }
-        Bounds.tell(x, twenty.toString());
+        Bounds.tell(x, Texts.twentyPlaces(1));
         is("twenty TOKENS", x, (1 << 20) - 1, 1, 0, NONE);
         Bounds.of(27, "BAD.");
         int[] noWhat = {-1, 4, 5};

@@ -242,11 +242,7 @@ final class SheetsBounds {
         x.come(0);
         Bounds.due("at first, not now", x.count(3), 1);
         Bounds.due("one came", x.count(4), 1);
-        StringBuilder twenty = new StringBuilder("in a;");
-        for (int p = 0; p < 20; p++) {
-            twenty.append("place>a+1;");
-        }
-        Bounds.tell(x, twenty.toString());
+        Bounds.tell(x, Texts.twentyPlaces(1));
         Bounds.due("twenty PLACES", x.count(2), 20);
         Bounds.due("twenty TOKENS", x.count(3), 20);
         Checks.put(x, Texts.filled("", 240));

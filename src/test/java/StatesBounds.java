@@ -136,11 +136,7 @@ final class StatesBounds {
         rows("MARKING", x, 0, 3, 6, 1, 4, 2, 0);
         rows("READY", x, 1, 3, 6, 1, 4, 2, 0);
         Bounds.terms(11, "A MARKING: the PLACES that have a TOKEN (bits).");
-        StringBuilder twenty = new StringBuilder("in a;");
-        for (int p = 0; p < 20; p++) {
-            twenty.append("place>a+1;");
-        }
-        Bounds.tell(x, twenty.toString());
+        Bounds.tell(x, Texts.twentyPlaces(1));
         rows("twenty TOKENS", x, 0, (1 << 20) - 1, 0);
         Bounds.terms(11, "An EVENT is READY, if each PLACE from which it takes has one, and it takes from one at least;");
         Bounds.tell(x, "in a;in b;place>a+ 1;place>a+ 0;place b+>a+/1 0;place a->b- 1;");

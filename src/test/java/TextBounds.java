@@ -1,4 +1,4 @@
-import java.util.function.Supplier;
+import java.util.List;
 
 /** Promises 4 and 5, sentence by sentence: texts, their tokens and their faults. */
 final class TextBounds {
@@ -63,15 +63,15 @@ final class TextBounds {
             Texts.SIX_WIRES + "in g;"};
         int[] answers = {-26, -17, -24, -18, -24, -40};
         for (int i = 0; i < wrong.length; i++) {
+            WaitingWires with = Texts.used(Texts.QUARREL).get();
             WaitingWires without = Texts.used(Texts.QUARREL).get();
-            Supplier<WaitingWires> made = Texts.used(Texts.QUARREL);
-            WaitingWires with = made.get();
+            without.end(0);
             Bounds.due("text() of '" + wrong[i] + "'", Checks.tell(with, wrong[i]), answers[i]);
-            // the fault and the tape are another one now: both stand ahead of all else in the row
-            Checks.tell(without, "#");
-            java.util.List<Integer> before = Look.at(without);
-            java.util.List<Integer> after = Look.at(with);
-            before.set(0, after.get(0));
+            Bounds.due("fault() of '" + wrong[i] + "'", with.fault(), i + 1);
+            // but for the fault, which stands first in the row, all is as it is with an empty tape
+            List<Integer> before = Look.at(without);
+            List<Integer> after = Look.at(with);
+            before.set(0, i + 1);
             Bounds.due("'" + wrong[i] + "' changes nothing else", before.equals(after) ? 1 : 0, 1);
         }
     }
@@ -292,11 +292,8 @@ final class TextBounds {
         fault("in a;place " + side + "a+/9>a+ 0;", 6, 11 + side.length());
         fault("in a;place>" + side + "a+/9 0;", 6, 11 + side.length());
         Bounds.terms(4, "the 21st PLACE (place).");
-        StringBuilder twenty = new StringBuilder("in a;");
-        for (int p = 0; p < 20; p++) {
-            twenty.append("place>a+0;");
-        }
-        taken(twenty.toString(), 20);
+        String twenty = Texts.twentyPlaces(0);
+        taken(twenty, 20);
         fault(twenty + "place>a+0;", 6, 205);
         fault(twenty + " place", 6, 206);
         fault(twenty + "place>b+ 2;", 6, 205);

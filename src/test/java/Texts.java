@@ -80,6 +80,15 @@ final class Texts {
         return s.toString();
     }
 
+    /** a+ takes from as many places as there can be. */
+    static String twentyPlaces(int tokens) {
+        StringBuilder s = new StringBuilder("in a;");
+        for (int p = 0; p < 20; p++) {
+            s.append("place>a+").append(tokens).append(';');
+        }
+        return s.toString();
+    }
+
     /** A text, and blanks behind it up to a length. */
     static String filled(String text, int length) {
         StringBuilder s = new StringBuilder(text);
