@@ -48,6 +48,7 @@ public final class CoverTest {
         int functions = args.length > 1 ? Integer.parseInt(args[1]) : 2500;
         int from = args.length > 2 ? Integer.parseInt(args[2]) : 0;
         CoverTest test = new CoverTest();
+        test.checkMost();
         for (int[][] levels : CUBES_FIRST) {
             test.take(levels[0], levels[1]);
             test.check("levels " + test.on);
@@ -59,6 +60,21 @@ public final class CoverTest {
             test.check("seed " + seed);
         }
         Checks.finish();
+    }
+
+    /** Of all six wires an odd number is 1: no two levels share a cube, so there are 32 with 6 letters each. */
+    private void checkMost() throws ReflectiveOperationException {
+        begin(6);
+        List<Integer> due = new ArrayList<>();
+        for (int l = 0; l < 64; l++) {
+            boolean odd = Integer.bitCount(l) % 2 == 1;
+            (odd ? on : off).add(l);
+            if (odd) {
+                due.add(Integer.parseInt(Integer.toBinaryString(l), 3));
+            }
+        }
+        List<Integer> got = found();
+        Checks.due("promise 16, the most cubes: " + got + " for " + due, got.equals(due) ? 1 : 0, 1);
     }
 
     private void check(String name) throws ReflectiveOperationException {
